@@ -18,7 +18,8 @@ public final class SweepKeeper {
 
     private static final int PAIR = 0, ROW = 1, BYTES = 2, WEAK = 3, WATCHED = 4, TABLE = 5, KINDS = 6;
 
-    // Findings are held as the answers that tell them: no act and no call but number() answers these otherwise.
+    // Findings are held as the answers that tell them: of acts and calls that may have one, only number() answers
+    // these otherwise.
     private static final int GONE = -11, BEYOND = -12, WRONG_KIND = -13, BELOW_ZERO = -14, STORE = -15, ROOM = -16;
     private static final int FAIL = -17, FAIL_OF_NOTHING = -18;
 
@@ -1120,6 +1121,9 @@ public final class SweepKeeper {
             // A cycle that was under way may keep what roots reach no more: then a whole one follows.
             for (int k = 0; k < 2 && ints > heap.free(); k++) {
                 sweeper.finish();
+            }
+            if (ints > heap.free()) {
+                return ROOM;
             }
             int h = heap.addCell(kind, count);
             sweeper.mark(h, MADE, NONE, NONE);

@@ -9,9 +9,11 @@ public final class CellsTest {
         newObject();
         size();
         sizeEndsAll();
+        sizeEndsCyclesAndRuns();
         make();
         makeLaysOut();
         makeRoom();
+        makeRoomReached();
         makeRoomUnderWay();
         make500();
         kindAndPlace();
@@ -149,6 +151,38 @@ public final class CellsTest {
         Due.is("size: trace of what was given back stays", 7, x.trace(11));
     }
 
+    private static void sizeEndsCyclesAndRuns() {
+        SweepKeeper x = new SweepKeeper();
+        x.make(4, 0);
+        x.make(0, 0);
+        x.make(0, 0);
+        x.root(0, 0);
+        x.root(1, 2);
+        x.weaken(0, 1);
+        x.cycle();
+        Due.is("size: told", 1, x.about(9));
+        x.act(0, 7, 0, 0, 0);
+        x.act(10, 0, 0, 0, 0);
+        x.act(8, 0, 0, 0, 0);
+        x.run(9);
+        x.step(2);
+        Due.is("size: one link of the second was looked through", 3, x.about(10) + x.about(11));
+        x.size(256);
+        for (int what = 2; what < 16; what++) {
+            Due.is("size: about " + what, 0, x.about(what));
+        }
+        Due.is("size: register", NONE, x.register(7));
+        Due.is("size: telling", NONE, x.told(0, 0));
+        x.make(0, 0);
+        x.root(0, 0);
+        Due.is("size: a new one is not marked", 0, x.marked(0));
+        Due.is("size: nor moved", 0, x.moved(0));
+        Due.is("size: both links are looked through", 2, x.step(9));
+        x.act(0, 0, 0, 0, 0);
+        x.act(10, 0, 0, 0, 0);
+        Due.is("size: the first act is next", 2, x.run(9));
+    }
+
     private static void make() {
         SweepKeeper x = new SweepKeeper();
         Due.is("make: kind -1", OUTSIDE, x.make(-1, 0));
@@ -216,6 +250,32 @@ public final class CellsTest {
         Due.is("room: it faded", NONE, x.look(0));
         Due.is("room: just full", 0, x.about(1));
         Due.is("room: SIZE is named first", SIZE, x.make(1, -1));
+    }
+
+    private static void makeRoomReached() {
+        SweepKeeper x = new SweepKeeper();
+        x.size(16);
+        x.make(0, 0);
+        x.make(1, 2);
+        x.make(0, 0);
+        x.make(0, 0);
+        x.root(0, 0);
+        x.link(0, 0, 1);
+        x.link(0, 1, 2);
+        x.link(1, 1, 2);
+        x.link(2, 0, 0);
+        Due.is("reached: by links, one more than N", ROOM, x.make(1, 5));
+        Due.is("reached: nothing is given back", 4, x.about(3));
+        Due.is("reached: each once, just N", 4, x.make(1, 4));
+        Due.is("reached: full", 0, x.about(1));
+        x.size(16);
+        x.make(1, 14);
+        x.root(0, 0);
+        Due.is("reached: no room", ROOM, x.make(2, 0));
+        x.size(16);
+        x.make(1, 12);
+        Due.is("reached: just the free ones", 1, x.make(2, 0));
+        Due.is("reached: no cycle", 0, x.about(4));
     }
 
     private static void makeRoomUnderWay() {
@@ -649,6 +709,7 @@ public final class CellsTest {
         SweepKeeper x = sixKinds();
         x.shelve(2, 7, 2);
         x.shelve(3, 0, 3);
+        x.shelve(0, 0, 0);
         x.root(0, 3);
         Due.is("shelf: has", 2, x.shelf(2, 7));
         Due.is("shelf: 8", BEYOND, x.shelf(2, 8));
@@ -658,6 +719,7 @@ public final class CellsTest {
         Due.is("shelf: unknown", UNKNOWN, x.shelf(-1, 0));
         Due.is("shelf: a shelf keeps nothing", 5, x.cycle());
         Due.is("shelf: what was given back leaves", NONE, x.shelf(2, 7));
+        Due.is("shelf: what was given back leaves", NONE, x.shelf(0, 0));
         Due.is("shelf: what was kept stays", 3, x.shelf(3, 0));
         Due.is("shelf: no finding", 0, x.finding());
     }

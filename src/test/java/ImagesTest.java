@@ -10,6 +10,10 @@ public final class ImagesTest {
         undoStepOfRun();
         undoStepIsKeptOnce();
         undoAcrossImages();
+        keptUnderWay();
+        keptTellings();
+        keptActs();
+        keptFreeInts();
         largeStates();
         finding();
         findingNotNamed();
@@ -200,6 +204,83 @@ public final class ImagesTest {
         Due.is("undo: gone with load()", NOT, x.undoStep());
     }
 
+    /** What the paper will tell of marks made ahead of image() must come back, too. */
+    private static void keptUnderWay() {
+        SweepKeeper x = busy();
+        x.make(0, 0);
+        x.make(0, 0);
+        x.link(3, 0, 4);
+        x.step(1);
+        x.link(3, 0, 5);
+        x.look(1);
+        x.root(9, 4);
+        x.image();
+        x.step(9);
+        x.step(9);
+        int papers = stateOf(x);
+        x.load();
+        Due.is("kept: open ones", 5, x.about(11));
+        x.cycle();
+        for (int r = 0; r < 6; r++) {
+            x.root(r, r);
+        }
+        x.cycle();
+        x.step(7);
+        x.load();
+        Due.is("kept: so many are left", 9, x.step(9));
+        Due.is("kept: and one", 1, x.step(9));
+        Due.is("kept: the paper is right", NONE, x.check());
+        x.load();
+        x.step(9);
+        x.step(9);
+        Due.is("kept: it goes on the same way", papers, stateOf(x));
+    }
+
+    private static void keptTellings() {
+        SweepKeeper x = busy();
+        x.step(0);
+        x.number(1, 5);
+        x.step(99);
+        Due.is("kept: a telling", 5, x.told(0, 1));
+        int state = stateOf(x);
+        x.image();
+        x.undoStep();
+        Due.is("kept: none ahead of it", NONE, x.told(0, 1));
+        x.number(1, 6);
+        x.cycle();
+        Due.is("kept: another telling", 6, x.told(0, 1));
+        x.load();
+        Due.is("kept: the first again", 5, x.told(0, 1));
+        Due.is("kept: all", state, stateOf(x));
+    }
+
+    private static void keptActs() {
+        SweepKeeper x = busy();
+        x.image();
+        x.clear();
+        x.act(10, 0, 0, 0, 0);
+        x.act(10, 0, 0, 0, 0);
+        x.act(10, 0, 0, 0, 0);
+        x.load();
+        Due.is("kept: acts", 3, x.run(3));
+        Due.is("kept: found none", 0, x.found());
+        Due.is("kept: MAKE was the first", 4, x.register(0));
+        Due.is("kept: STEP was the second", 1, x.phase());
+    }
+
+    private static void keptFreeInts() {
+        SweepKeeper x = busy();
+        x.image();
+        int free = x.about(1);
+        x.make(5, 9);
+        x.load();
+        for (int k = 256 - free; k < 256; k++) {
+            Due.is("kept: free int " + k, 0, x.word(k));
+        }
+        x.make(5, 1);
+        Due.is("kept: key", 0, x.find(4, 0));
+    }
+
     private static void largeStates() {
         SweepKeeper x = new SweepKeeper();
         x.image();
@@ -225,6 +306,14 @@ public final class ImagesTest {
         x.link(3, 299, 4);
         x.undoStep();
         Due.is("large: undone", state, stateOf(x));
+        Due.is("large: rows", 27 + 12 * 306, x.rows());
+        Due.is("large: right", NONE, x.check());
+        x.forge(3000, 5000);
+        Due.is("large: forged", 3000, x.check());
+        x.step(0);
+        x.plain();
+        x.undoStep();
+        Due.is("large: forged again", 3000, x.check());
     }
 
     private static void finding() {

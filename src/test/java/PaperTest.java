@@ -12,6 +12,9 @@ public final class PaperTest {
         checkEmpty();
         checkForm();
         checkLacks();
+        checkLacksBehindALongerOne();
+        longPapers();
+        longestPaper();
         checkMeaningOfRootsAndHandles();
         checkReasons();
         checkNumbers();
@@ -179,6 +182,81 @@ public final class PaperTest {
         x.plain();
         due("of nothing: F lacks", ofNothing(), 24, 1, 27);
         due("of nothing: no sum behind F", ofNothing(), 25, 1, 25);
+    }
+
+    /** A longer paper before it must leave nothing that is read behind the last number. */
+    private static void checkLacksBehindALongerOne() {
+        SweepKeeper x = new SweepKeeper();
+        for (int k = 0; k < 3; k++) {
+            x.root(k, x.make(1, 10));
+        }
+        x.cycle();
+        for (int k = 0; k < 3; k++) {
+            x.root(k, NONE);
+        }
+        x.root(0, x.make(2, 0));
+        x.cycle();
+        Due.is("longer: rows", 36, x.rows());
+        // With two links the form is right by chance: 1 stands where F would, and one number and THE SUM behind it.
+        int[] links = {32, 32, 34, 35, 36, 36, 36, 36};
+        for (int k = 0; k < links.length; k++) {
+            due("longer: links " + (k + 1), x, 30, k + 1, links[k]);
+        }
+        for (int k = 2; k < 9; k++) {
+            due("longer: kept " + k, x, 24, k, 36);
+        }
+    }
+
+    private static void longPapers() {
+        SweepKeeper x = new SweepKeeper();
+        chainByRuns(x, 85);
+        Due.is("long: full", 1, x.about(1));
+        Due.is("long: none is given back", 0, x.cycle());
+        Due.is("long: rows", 27 + 85 * 8, x.rows());
+        Due.is("long: right", NONE, x.check());
+        x.size(4000);
+        chainByRuns(x, 500);
+        Due.is("long: none is given back", 0, x.cycle());
+        Due.is("long: rows of 500", 27 + 500 * 8, x.rows());
+        Due.is("long: right", NONE, x.check());
+        due("long: K 501", x, 24, 501, 24);
+        due("long: number 501", x, 25 + 4, 501, 25 + 4);
+        x.root(0, NONE);
+        Due.is("long: all are given back", 500, x.cycle());
+        Due.is("long: rows of none", 27 + 500, x.rows());
+        Due.is("long: right", NONE, x.check());
+        due("long: F 501", x, 25, 501, 25);
+    }
+
+    /** Near the most numbers that a paper can have. */
+    private static void longestPaper() {
+        SweepKeeper x = new SweepKeeper();
+        x.size(4000);
+        chainByRuns(x, 490);
+        for (int r = 1; r < 9; r++) {
+            x.root(r, x.make(1, 300));
+        }
+        x.root(9, x.make(1, 112));
+        Due.is("longest: full", 0, x.about(1));
+        Due.is("longest: a cycle", 0, x.cycle());
+        Due.is("longest: rows", 27 + 6 * 499 + 490 * 2 + 8 * 300 + 112, x.rows());
+        Due.is("longest: right", NONE, x.check());
+        x.image();
+        x.forge(6500, 9);
+        x.load();
+        Due.is("longest: right again", NONE, x.check());
+    }
+
+    /** Each pair's left link leads to the one made before it; root 0 has the last. */
+    private static void chainByRuns(SweepKeeper x, int n) {
+        x.act(0, 0, 0, 0, 0);
+        x.act(1, 0, 0, 1, 0);
+        x.act(3, 0, 0, 0, 0);
+        x.act(4, 0, 1, 0, 0);
+        for (int left = 4 * n; left > 0; left -= 200) {
+            x.run(Math.min(left, 200));
+        }
+        Due.is("long: made", n, x.about(3));
     }
 
     private static void checkMeaningOfRootsAndHandles() {
