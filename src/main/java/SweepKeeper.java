@@ -12,7 +12,6 @@ public final class SweepKeeper {
     private static final int ROOTS = 24, SHELVES = 4, SHELF_PLACES = 8;
     private static final int REGISTERS = 8, ACTS = 40, ACT_INTS = 5, MOST_IN_RUN = 200, MOST_IN_STEP = 1000;
     // A kept cell has at least two ints, fewer links than ints, and six numbers more; one given back has one number.
-    private static final int FIRST_PAPER = ROOTS + 3 + FIRST_SIZE + 4 * (FIRST_SIZE / 2) + HANDLES;
     private static final int MOST_PAPER = ROOTS + 3 + MOST_SIZE + 4 * HANDLES + HANDLES;
     private static final int TELLINGS = 100, TELLING_INTS = 3, BODIES = 14;
 
@@ -49,13 +48,16 @@ public final class SweepKeeper {
     private final int[] bodies;
     private int lastFinding;
     private int lastFound;
-    private State image;
+    private final State image;
     private boolean imageKept;
-    private State before;
+    private final State before;
     private boolean beforeKept;
 
+    /** All rows are made here, for the largest heap: no call makes any, so 512 calls make no more than this. */
     public SweepKeeper() {
         now = new State();
+        image = new State();
+        before = new State();
         bodies = new int[BODIES];
         sweeper = new Sweeper(now, bodies);
         cells = new Cells(now, sweeper);
@@ -382,13 +384,13 @@ public final class SweepKeeper {
     // ---- images
 
     public int image() {
-        image = copyOfNow(image);
+        image.become(now);
         imageKept = true;
         return now.heap.there;
     }
 
     public int load() {
-        if (!imageKept || image == null) {
+        if (!imageKept) {
             return NOT;
         }
         now.become(image);
@@ -397,7 +399,7 @@ public final class SweepKeeper {
     }
 
     public int undoStep() {
-        if (!beforeKept || before == null) {
+        if (!beforeKept) {
             return NOT;
         }
         now.become(before);
@@ -445,15 +447,8 @@ public final class SweepKeeper {
         }
     }
 
-    private State copyOfNow(State old) {
-        // States are used again: what a run makes is never given back.
-        State kept = old == null ? new State() : old;
-        kept.become(now);
-        return kept;
-    }
-
     private int stepKeepingBefore(int n) {
-        before = copyOfNow(before);
+        before.become(now);
         beforeKept = true;
         return sweeper.goOn(n);
     }
@@ -491,23 +486,20 @@ public final class SweepKeeper {
         int top;
         int made;
         int there;
-        int[] words = new int[FIRST_SIZE];
+        final int[] words = new int[MOST_SIZE];
         final int[] places = new int[HANDLES];
         final int[] shifts = new int[HANDLES];
 
         void empty(int n) {
-            fit(n);
+            freeFrom(0);
             total = n;
-            top = 0;
             made = 0;
             there = 0;
-            Arrays.fill(words, 0);
             Arrays.fill(places, NONE);
             Arrays.fill(shifts, 0);
         }
 
         void copyFrom(Heap other) {
-            fit(other.total);
             if (top > other.top) {
                 Arrays.fill(words, other.top, top, 0);
             }
@@ -518,13 +510,6 @@ public final class SweepKeeper {
             top = other.top;
             made = other.made;
             there = other.there;
-        }
-
-        private void fit(int n) {
-            // One jump to the most: growing by what each size() asks would fill the room of a run.
-            if (n > words.length) {
-                words = new int[MOST_SIZE];
-            }
         }
 
         static boolean isCounted(int kind) {
@@ -730,26 +715,13 @@ public final class SweepKeeper {
     /** The paper as it is shown (and may be forged), and as it was written. */
     private static final class Paper {
         int length;
-        int[] written = new int[FIRST_PAPER];
-        int[] shown = new int[FIRST_PAPER];
-
-        void empty(int heapInts) {
-            fit(heapInts > FIRST_SIZE ? MOST_PAPER : FIRST_PAPER);
-            length = 0;
-        }
+        final int[] written = new int[MOST_PAPER];
+        final int[] shown = new int[MOST_PAPER];
 
         void copyFrom(Paper other) {
-            fit(other.length);
             length = other.length;
             System.arraycopy(other.written, 0, written, 0, length);
             System.arraycopy(other.shown, 0, shown, 0, length);
-        }
-
-        private void fit(int numbers) {
-            if (numbers > written.length) {
-                written = new int[MOST_PAPER];
-                shown = new int[MOST_PAPER];
-            }
         }
 
         void add(int v) {
@@ -844,7 +816,7 @@ public final class SweepKeeper {
             heap.empty(n);
             marks.wipe();
             tally.empty();
-            paper.empty(n);
+            paper.length = 0;
             program.empty();
             Arrays.fill(roots, NONE);
             Arrays.fill(shelves, NONE);

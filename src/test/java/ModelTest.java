@@ -3,11 +3,13 @@ import java.util.Random;
 
 /** Many runs of calls, drawn from fixed seeds, on SweepKeeper and on Model: every answer must be the same. */
 public final class ModelTest {
-    private static final int RUNS = 1200, CALLS = 512;
+    private static final int RUNS = 1400, CALLS = 512;
     private static final int[] ARGUMENTS = {1, 2, 1, 1, 1, 1, 3, 2, 2, 1, 2, 3, 2, 3, 2, 2, 1, 5, 0, 3, 2,
         1, 0, 0, 1, 1, 2, 1, 1, 0, 0, 1, 2, 0, 0, 5, 0, 1, 0, 1, 0, 0, 0, 0, 1};
     private static final int[] EDGES = {-2, -1, 0, 1, 2, 3, 5, 7, 8, 23, 24, 299, 300, 301, 499, 500, 501, 1000, 1001,
         Integer.MIN_VALUE, Integer.MAX_VALUE};
+    private static final int[] UP_AND_DOWN = {16, 256, 257, 4000, 257, 256, 16};
+    private static final int CALLS_BETWEEN = CALLS / UP_AND_DOWN.length;
 
     private final Random random;
     private final SweepKeeper x = new SweepKeeper();
@@ -18,7 +20,7 @@ public final class ModelTest {
 
     private ModelTest(int seed) {
         random = new Random(seed);
-        mood = seed % 6;
+        mood = seed % 7;
     }
 
     public static void main(String[] args) {
@@ -38,6 +40,10 @@ public final class ModelTest {
             program();
         }
         for (int k = 0; k < CALLS && Due.allRight(); k++) {
+            if (mood == 6 && k % CALLS_BETWEEN == 0) {
+                compareAll();
+                both(0, UP_AND_DOWN[k / CALLS_BETWEEN % UP_AND_DOWN.length]);
+            }
             int op = drawOp();
             both(op, drawArguments(op));
             if (random.nextInt(100) == 0) {
@@ -78,7 +84,7 @@ public final class ModelTest {
             return common[random.nextInt(common.length)];
         }
         if (r < 7) {
-            int[] own = mood == 5 ? ofPaper : mood == 3 || mood == 4 ? ofProgram : mood == 0 ? ofImages : common;
+            int[] own = mood == 5 ? ofPaper : mood == 3 || mood == 4 ? ofProgram : mood == 0 || mood == 6 ? ofImages : common;
             return own[random.nextInt(own.length)];
         }
         int op = random.nextInt(45);
@@ -109,7 +115,7 @@ public final class ModelTest {
     }
 
     private int count() {
-        return random.nextInt(30) == 0 ? edge() : random.nextInt(mood == 2 ? 120 : 7);
+        return random.nextInt(30) == 0 ? edge() : random.nextInt(mood == 2 || mood == 6 && random.nextInt(4) == 0 ? 120 : 7);
     }
 
     private int[] drawArguments(int op) {
@@ -209,6 +215,9 @@ public final class ModelTest {
         }
         for (int k = 0; k < 40; k++) {
             both(28, k);
+        }
+        for (int k = 0; k < 8; k++) {
+            both(28, x.about(0) - 1 - k);
         }
         both(29);
         both(43);
