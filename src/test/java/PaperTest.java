@@ -26,10 +26,10 @@ public final class PaperTest {
     }
 
     // Where the numbers of written() stand.
-    private static final int K = 24, FIRST = 25, SECOND = 33, THIRD = 40, F = 46, BACK = 47, SUM = 49;
+    static final int K = 24, FIRST = 25, SECOND = 33, THIRD = 40, F = 46, BACK = 47, SUM = 49;
 
     /** Kept: PAIR 1 (root 2; links 3, NONE), WEAK 3 (link 0 of 1; link 5), BYTES 5; given back: 0, 2. 4 went before. */
-    private static SweepKeeper written() {
+    static SweepKeeper written() {
         SweepKeeper x = new SweepKeeper();
         x.make(0, 0);
         x.make(0, 0);
@@ -56,7 +56,7 @@ public final class PaperTest {
         NONE, NONE, NONE, NONE, NONE, NONE, NONE, NONE, NONE, NONE, 3, 1, 0, 2, NONE, 1, 2, 3, NONE, 3, 1, 1, 0, 2, 1,
         5, 5, 1, 3, 0, 3, 0, 2, 0, 2};
 
-    private static int sumOf(SweepKeeper x) {
+    static int sumOf(SweepKeeper x) {
         int s = 1;
         for (int k = 0; k < x.rows() - 1; k++) {
             s = 31 * s + x.row(k);
@@ -248,7 +248,7 @@ public final class PaperTest {
     }
 
     /** Each pair's left link leads to the one made before it; root 0 has the last. */
-    private static void chainByRuns(SweepKeeper x, int n) {
+    static void chainByRuns(SweepKeeper x, int n) {
         x.act(0, 0, 0, 0, 0);
         x.act(1, 0, 0, 1, 0);
         x.act(3, 0, 0, 0, 0);
