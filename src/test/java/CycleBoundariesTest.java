@@ -19,6 +19,15 @@ public final class CycleBoundariesTest extends Boundary {
         end(23, 31);
     }
 
+    private static SweepKeeper thousandLinks() {
+        SweepKeeper x = sized(4000);
+        int[] links = {300, 300, 300, 100};
+        for (int r = 0; r < links.length; r++) {
+            x.root(r, x.make(ROW, links[r]));
+        }
+        return x;
+    }
+
     // "then n LINKS at most (0 .. 1000) are LOOKED THROUGH [..] OUTSIDE."
     private static void stepNumbers() {
         int[] outside = {-1, 1001, MIN, MAX};
@@ -42,6 +51,19 @@ public final class CycleBoundariesTest extends Boundary {
             int state = stateOf(x);
             is(0, x.step(0));
             is(state, stateOf(x));
+        });
+        test("23 step: 1000 of just 1000 LINKS ENDS it", () -> {
+            SweepKeeper x = thousandLinks();
+            is(1000, x.step(1000));
+            is(0, x.phase());
+        });
+        test("23 step: 1000 of 1001 LINKS does not END it", () -> {
+            SweepKeeper x = thousandLinks();
+            x.root(23, x.make(WEAK, 0));
+            is(1000, x.step(1000));
+            is(1, x.phase());
+            is(1, x.step(1000));
+            is(0, x.phase());
         });
         test("23 step: 1000 of 1200 LINKS, then the other 200", () -> {
             SweepKeeper x = sized(4000);

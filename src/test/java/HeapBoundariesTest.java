@@ -51,6 +51,15 @@ public final class HeapBoundariesTest extends Boundary {
             is(0, x.make(PAIR, 0));
             is(0, x.place(0));
         });
+        // "An object is used for at most 512 calls after it has been made"
+        test("1 new object: the 512th call is answered as any other", () -> {
+            SweepKeeper x = new SweepKeeper();
+            x.make(BYTES, 300);
+            for (int call = 2; call < 512; call++) {
+                x.put(0, 299, call);
+            }
+            is(511 - 256, x.byteAt(0, 299));
+        });
         test("1 new object: two objects share nothing", () -> {
             SweepKeeper x = six();
             SweepKeeper y = new SweepKeeper();
